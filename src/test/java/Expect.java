@@ -5,6 +5,9 @@ final class Expect {
     }
 
     private final String test;
+    private String about = "";
+    private int sentences = 0;
+    private int broken = 0;
     private int checked = 0;
     private int wrong = 0;
 
@@ -21,6 +24,26 @@ final class Expect {
         }
     }
 
+    /** Runs the test that a sentence has of its own; words are the document's, place is where they stand. */
+    void sentence(String place, String words, Runnable own) {
+        int checkedBefore = checked;
+        int wrongBefore = wrong;
+        about = place + ": \"" + words + "\": ";
+        try {
+            own.run();
+        } catch (RuntimeException e) {
+            same("no exception", "a call that should answer", "" + e);
+        }
+        if (checked == checkedBefore) {
+            same("a comparison", "the test", "nothing");
+        }
+        about = "";
+        sentences++;
+        if (wrong != wrongBefore) {
+            broken++;
+        }
+    }
+
     void gives(long due, String what, Call call) {
         same("" + due, what, outcome(call));
     }
@@ -33,11 +56,14 @@ final class Expect {
         checked++;
         if (!due.equals(got)) {
             wrong++;
-            System.out.println(test + ": " + what + " answered " + got + ", due is " + due);
+            System.out.println(test + ": " + about + what + " answered " + got + ", due is " + due);
         }
     }
 
     void end() {
+        if (sentences != 0) {
+            System.out.println(test + ": " + sentences + " sentences, " + broken + " broken");
+        }
         System.out.println(test + ": " + checked + " checked, " + wrong + " wrong");
         if (wrong != 0 || checked == 0) {
             System.exit(1);

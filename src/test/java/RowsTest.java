@@ -4,78 +4,154 @@ public final class RowsTest {
     private static final Class<ArrayIndexOutOfBoundsException> NO_CELL = ArrayIndexOutOfBoundsException.class;
     private static final Class<NegativeArraySizeException> BELOW_0 = NegativeArraySizeException.class;
 
+    private static final int MIN = Integer.MIN_VALUE;
+    private static final int MAX = Integer.MAX_VALUE;
+    private static final int[] KINDS = {0, 1, 2, 3, 4, 5, 6, 7};
+    private static final int[] LENGTHS = {0, 1, 2, 3, 38, 39};
+
     private static final Expect expect = new Expect("RowsTest");
+
+    private interface CellCall {
+        long on(FaultBench x, int kind, boolean there, int i);
+    }
+
+    private static final CellCall READ = FaultBench::read;
+    private static final CellCall WRITE = (x, kind, there, i) -> x.write(kind, there, i, 1);
 
     public static void main(String[] args) {
         newObject();
-        writtenValues();
-        countOfWritten();
-        kindByLowestThreeBits();
-        kindsAreApart();
-        objectsAreApart();
-        nothingThere();
-        noSuchCell();
+        read();
+        write();
+        length();
         make();
-        makeBelow0();
-        throwingChangesNothing();
+        objectsAreApart();
         expect.end();
     }
 
     private static void newObject() {
-        FaultBench x = new FaultBench();
-        for (int kind = 0; kind < 8; kind++) {
-            int k = kind;
-            expect.gives(3, "new: length of " + k, () -> x.length(k, true));
-            for (int cell = 0; cell < 3; cell++) {
-                int i = cell;
-                expect.gives(0, "new: read of " + k + " at " + i, () -> x.read(k, true, i));
-            }
-        }
-        expect.raises(NOTHING, "new: cell", () -> x.cell(0, 0));
-        expect.raises(NOTHING, "new: value", () -> x.value(0));
-        expect.raises(NOTHING, "new: put", () -> x.put(true, 0, 1, 1));
-        expect.gives(1, "new: the first write", () -> x.write(0, true, 0, 0));
-        expect.gives(1, "new: boxes", () -> x.boxes(1, false));
-        expect.gives(1, "new: the first put", () -> x.put(true, 0, 1, 1));
+        expect.sentence("Promise 1", "Eight rows of three cells", RowsTest::newRows);
+        expect.sentence("Promise 1", "no grid", RowsTest::newHasNoGrid);
+        expect.sentence("Promise 1", "no boxes", RowsTest::newHasNoBoxes);
     }
 
-    /** Each row: the value written, then what is read of it in each of the eight kinds. */
-    private static void writtenValues() {
-        long[][] due = {
-            {0, 0, 0, 0, 0, 0, 0, 0, 0},
-            {1, 1, 1, 1, 1, 1, 1, 1, 1},
-            {-1, -1, -1, -1, -1, 65535, 1, -1, -1},
-            {127, 127, 127, 127, 127, 127, 1, 127, 127},
-            {128, 128, 128, 128, -128, 128, 1, 128, 128},
-            {-129, -129, -129, -129, 127, 65407, 1, -129, -129},
-            {256, 256, 256, 256, 0, 256, 1, 256, 256},
-            {32767, 32767, 32767, 32767, -1, 32767, 1, 32767, 32767},
-            {32768, 32768, 32768, -32768, 0, 32768, 1, 32768, 32768},
-            {-32769, -32769, -32769, 32767, -1, 32767, 1, -32769, -32769},
-            {65535, 65535, 65535, -1, -1, 65535, 1, 65535, 65535},
-            {65536, 65536, 65536, 0, 0, 0, 1, 65536, 65536},
-            {-70000, -70000, -70000, -4464, -112, 61072, 1, -70000, -70000},
-            {16777216, 16777216, 16777216, 0, 0, 0, 1, 16777216, 16777216},
-            {16777217, 16777217, 16777217, 1, 1, 1, 1, 16777216, 16777217},
-            {16777218, 16777218, 16777218, 2, 2, 2, 1, 16777218, 16777218},
-            {16777219, 16777219, 16777219, 3, 3, 3, 1, 16777220, 16777219},
-            {-16777217, -16777217, -16777217, -1, -1, 65535, 1, -16777216, -16777217},
-            {-16777219, -16777219, -16777219, -3, -3, 65533, 1, -16777220, -16777219},
-            {33554435, 33554435, 33554435, 3, 3, 3, 1, 33554436, 33554435},
-            {2147483583, 2147483583, 2147483583, -65, -65, 65471, 1, 2147483520, 2147483583},
-            {2147483584, 2147483584, 2147483584, -64, -64, 65472, 1, 2147483648L, 2147483584},
-            {2147483647, 2147483647, 2147483647, -1, -1, 65535, 1, 2147483648L, 2147483647},
-            {-2147483648, -2147483648, -2147483648, 0, 0, 0, 1, -2147483648, -2147483648},
-        };
-        for (long[] line : due) {
+    private static void read() {
+        expect.sentence("Promise 2", "What is at i of the KIND's row.", RowsTest::readEveryCell);
+        expect.sentence("Promise 2", "NullPointerException: there is false.", () -> raiseNothing(READ));
+        expect.sentence("Promise 2, i is too small", "ArrayIndexOutOfBoundsException: i is not in the row.",
+            () -> raiseBelow(READ));
+        expect.sentence("Promise 2, i is too large", "ArrayIndexOutOfBoundsException: i is not in the row.",
+            () -> raiseBehind(READ));
+    }
+
+    private static void write() {
+        expect.sentence("Promise 3", "v comes to i of the KIND's row", RowsTest::writeEveryCell);
+        expect.sentence("Promise 3", "how many were written so far", RowsTest::countOfWritten);
+        expect.sentence("Promise 3, there is false", "As read.", () -> raiseNothing(WRITE));
+        expect.sentence("Promise 3, i is too small", "As read.", () -> raiseBelow(WRITE));
+        expect.sentence("Promise 3, i is too large", "As read.", () -> raiseBehind(WRITE));
+    }
+
+    private static void length() {
+        expect.sentence("Promise 4", "How many cells the KIND's row has.", RowsTest::lengths);
+        expect.sentence("Promise 4", "NullPointerException: there is false.", RowsTest::lengthOfNothing);
+    }
+
+    private static void make() {
+        expect.sentence("Promise 5", "The KIND's row is made anew", RowsTest::makeOneKind);
+        expect.sentence("Promise 5", "with n % 40 cells (what is left has the sign of n)", RowsTest::makeByWhatIsLeft);
+        expect.sentence("Promise 5", "all 0", RowsTest::makeAll0);
+        expect.sentence("Promise 5", "how many", RowsTest::makeTellsHowMany);
+        expect.sentence("Promise 5", "NegativeArraySizeException: these are below 0.", RowsTest::makeBelow0);
+    }
+
+    private static FaultBench withRow(int kind, int cells) {
+        FaultBench x = new FaultBench();
+        x.make(kind, cells);
+        return x;
+    }
+
+    private static void newRows() {
+        for (int k : KINDS) {
             FaultBench x = new FaultBench();
-            int v = (int) line[0];
-            for (int kind = 0; kind < 8; kind++) {
-                int k = kind;
-                expect.gives(k + 1, "write of " + v + " to " + k, () -> x.write(k, true, 1, v));
-                expect.gives(line[k + 1], "read of " + v + " from " + k, () -> x.read(k, true, 1));
-                expect.gives(0, "read beside " + v + " from " + k, () -> x.read(k, true, 0));
-                expect.gives(0, "read beside " + v + " from " + k, () -> x.read(k, true, 2));
+            expect.gives(3, "length of " + k, () -> x.length(k, true));
+            expect.gives(0, "first cell of " + k, () -> x.read(k, true, 0));
+            expect.gives(0, "last cell of " + k, () -> x.read(k, true, 2));
+            expect.raises(NO_CELL, "fourth cell of " + k, () -> x.read(k, true, 3));
+            expect.gives(1, "first write", () -> x.write(k, true, 2, 0));
+        }
+    }
+
+    private static void newHasNoGrid() {
+        FaultBench x = new FaultBench();
+        expect.raises(NOTHING, "cell", () -> x.cell(0, 0));
+    }
+
+    private static void newHasNoBoxes() {
+        FaultBench x = new FaultBench();
+        expect.raises(NOTHING, "put", () -> x.put(true, 0, 1, 1));
+        expect.raises(NOTHING, "value", () -> x.value(0));
+        expect.raises(NOTHING, "change", () -> x.change(0, 1));
+        expect.raises(NOTHING, "weigh", () -> x.weigh(0, 1));
+        expect.raises(NOTHING, "roll", () -> x.roll(0, 1));
+        expect.gives(1, "boxes", () -> x.boxes(1, false));
+        expect.gives(1, "first put", () -> x.put(true, 0, 1, 1));
+    }
+
+    private static void readEveryCell() {
+        for (int k : KINDS) {
+            FaultBench x = withRow(k, 39);
+            for (int cell = 0; cell < 39; cell++) {
+                x.write(k, true, cell, k == 5 ? cell % 2 : cell + 1);
+            }
+            for (int cell = 0; cell < 39; cell++) {
+                int i = cell;
+                expect.gives(k == 5 ? i % 2 : i + 1, "read " + k + " at " + i, () -> x.read(k, true, i));
+                expect.gives(k == 5 ? i % 2 : i + 1, "read " + k + " again at " + i, () -> x.read(k, true, i));
+            }
+        }
+    }
+
+    private static void raiseNothing(CellCall call) {
+        for (int k : KINDS) {
+            for (int cells : LENGTHS) {
+                FaultBench x = withRow(k, cells);
+                expect.raises(NOTHING, k + " of " + cells, () -> call.on(x, k, false, 0));
+            }
+        }
+    }
+
+    private static void raiseBelow(CellCall call) {
+        for (int k : KINDS) {
+            for (int cells : LENGTHS) {
+                FaultBench x = withRow(k, cells);
+                for (int i : new int[] {-1, -2, -cells - 1, -256, -65536, MIN}) {
+                    expect.raises(NO_CELL, k + " of " + cells + " at " + i, () -> call.on(x, k, true, i));
+                }
+            }
+        }
+    }
+
+    private static void raiseBehind(CellCall call) {
+        for (int k : KINDS) {
+            for (int cells : LENGTHS) {
+                FaultBench x = withRow(k, cells);
+                for (int i : new int[] {cells, cells + 1, 39, 40, 256, 65536, MAX}) {
+                    expect.raises(NO_CELL, k + " of " + cells + " at " + i, () -> call.on(x, k, true, i));
+                }
+            }
+        }
+    }
+
+    private static void writeEveryCell() {
+        for (int k : KINDS) {
+            for (int cell = 0; cell < 39; cell++) {
+                FaultBench x = withRow(k, 39);
+                int at = cell;
+                x.write(k, true, at, 1);
+                for (int other = 0; other < 39; other++) {
+                    int i = other;
+                    expect.gives(i == at ? 1 : 0, "read " + k + " at " + i + " behind " + at, () -> x.read(k, true, i));
+                }
             }
         }
     }
@@ -87,37 +163,98 @@ public final class RowsTest {
         expect.gives(3, "third write, other kind", () -> x.write(5, true, 0, 5));
         expect.raises(NO_CELL, "write that throws", () -> x.write(5, true, 3, 5));
         expect.raises(NOTHING, "write that throws", () -> x.write(5, false, 0, 5));
+        expect.gives(0, "make", () -> x.make(0, 0));
+        expect.raises(NO_CELL, "write to an empty row", () -> x.write(0, true, 0, 5));
         expect.gives(2, "make", () -> x.make(0, 2));
         expect.gives(0, "read", () -> x.read(0, true, 0));
+        expect.gives(1, "boxes", () -> x.boxes(1, false));
+        expect.gives(1, "a put has a count of its own", () -> x.put(true, 0, 1, 5));
         expect.gives(4, "write behind throws and a make", () -> x.write(0, true, 0, 5));
     }
 
-    private static void kindByLowestThreeBits() {
-        FaultBench x = new FaultBench();
-        expect.gives(1, "write to kind 11", () -> x.write(11, true, 0, 200));
-        expect.gives(-56, "read of kind 3", () -> x.read(3, true, 0));
-        expect.gives(-56, "read of kind -5", () -> x.read(-5, true, 0));
-        expect.gives(2, "write to kind -1", () -> x.write(-1, true, 2, 77));
-        expect.gives(77, "read of kind 7", () -> x.read(7, true, 2));
-        expect.gives(77, "read of kind 2^31 - 1", () -> x.read(Integer.MAX_VALUE, true, 2));
-        expect.gives(6, "make of kind -2^31", () -> x.make(Integer.MIN_VALUE, 6));
-        expect.gives(6, "length of kind 0", () -> x.length(0, true));
-        expect.gives(6, "length of kind 8", () -> x.length(8, true));
-        expect.gives(3, "length of kind 9", () -> x.length(9, true));
+    private static void lengths() {
+        for (int k : KINDS) {
+            for (int cells : LENGTHS) {
+                FaultBench x = withRow(k, cells);
+                expect.gives(cells, "length of " + k, () -> x.length(k, true));
+                expect.gives(3, "length of the next kind", () -> x.length(k + 1, true));
+            }
+        }
     }
 
-    private static void kindsAreApart() {
-        FaultBench x = new FaultBench();
-        for (int kind = 0; kind < 8; kind++) {
-            int k = kind;
-            expect.gives(10 + k, "make " + k, () -> x.make(k, 10 + k));
-            expect.gives(k + 1, "write " + k, () -> x.write(k, true, 9 + k, k == 5 ? 1 : 20 + k));
+    private static void lengthOfNothing() {
+        for (int k : KINDS) {
+            for (int cells : LENGTHS) {
+                FaultBench x = withRow(k, cells);
+                expect.raises(NOTHING, "length of " + k + " of " + cells, () -> x.length(k, false));
+            }
         }
-        for (int kind = 0; kind < 8; kind++) {
-            int k = kind;
-            expect.gives(10 + k, "length " + k, () -> x.length(k, true));
-            expect.gives(k == 5 ? 1 : 20 + k, "last cell " + k, () -> x.read(k, true, 9 + k));
-            expect.raises(NO_CELL, "behind the last cell " + k, () -> x.read(k, true, 10 + k));
+    }
+
+    private static void makeOneKind() {
+        for (int k : KINDS) {
+            FaultBench x = new FaultBench();
+            for (int other : KINDS) {
+                x.write(other, true, 2, 1);
+            }
+            expect.gives(3, "make " + k, () -> x.make(k, 3));
+            for (int other : KINDS) {
+                expect.gives(other == k ? 0 : 1, "read " + other + " behind " + k, () -> x.read(other, true, 2));
+            }
+        }
+    }
+
+    /** Each row: n, and what is left of it. */
+    private static void makeByWhatIsLeft() {
+        int[][] due = {
+            {0, 0}, {1, 1}, {38, 38}, {39, 39}, {40, 0}, {41, 1}, {79, 39}, {80, 0}, {2147483640, 0}, {MAX, 7},
+            {-40, 0}, {-80, 0}, {-2147483640, 0},
+        };
+        for (int k : KINDS) {
+            for (int[] line : due) {
+                FaultBench x = new FaultBench();
+                expect.gives(line[1], "make " + k + " with " + line[0], () -> x.make(k, line[0]));
+                expect.gives(line[1], "length behind make " + k + " with " + line[0], () -> x.length(k, true));
+                expect.raises(NO_CELL, "read behind make " + k + " with " + line[0], () -> x.read(k, true, line[1]));
+            }
+        }
+    }
+
+    /** Cells that an earlier row had are 0 again, and those that a shorter row between had not. */
+    private static void makeAll0() {
+        for (int k : KINDS) {
+            FaultBench x = withRow(k, 39);
+            for (int next : new int[] {39, 3, 38, 0, 39}) {
+                int cells = x.length(k, true);
+                for (int i = 0; i < cells; i++) {
+                    x.write(k, true, i, -1);
+                }
+                x.make(k, next);
+                for (int cell = 0; cell < next; cell++) {
+                    int i = cell;
+                    expect.gives(0, "read " + k + " of " + next + " at " + i, () -> x.read(k, true, i));
+                }
+            }
+        }
+    }
+
+    private static void makeTellsHowMany() {
+        for (int k : KINDS) {
+            FaultBench x = new FaultBench();
+            for (int n = 0; n < 40; n++) {
+                int cells = n;
+                expect.gives(cells, "make " + k + " with " + cells, () -> x.make(k, cells));
+            }
+        }
+    }
+
+    private static void makeBelow0() {
+        for (int k : KINDS) {
+            FaultBench x = new FaultBench();
+            for (int n : new int[] {-1, -2, -38, -39, -41, -79, -81, -2147483647, MIN}) {
+                expect.raises(BELOW_0, "make " + k + " with " + n, () -> x.make(k, n));
+                expect.gives(3, "length behind make " + k + " with " + n, () -> x.length(k, true));
+            }
         }
     }
 
@@ -130,83 +267,5 @@ public final class RowsTest {
         expect.gives(3, "length of y", () -> y.length(1, true));
         expect.gives(1, "write to y", () -> y.write(0, true, 0, 8));
         expect.gives(9, "read of x", () -> x.read(0, true, 0));
-    }
-
-    private static void nothingThere() {
-        FaultBench x = new FaultBench();
-        for (int kind = 0; kind < 8; kind++) {
-            int k = kind;
-            expect.raises(NOTHING, "read " + k, () -> x.read(k, false, 0));
-            expect.raises(NOTHING, "write " + k, () -> x.write(k, false, 0, 1));
-            expect.raises(NOTHING, "length " + k, () -> x.length(k, false));
-            expect.raises(NOTHING, "read without cell " + k, () -> x.read(k, false, 3));
-            expect.raises(NOTHING, "read without cell " + k, () -> x.read(k, false, -1));
-            expect.raises(NOTHING, "write without cell " + k, () -> x.write(k, false, 3, 1));
-        }
-    }
-
-    private static void noSuchCell() {
-        FaultBench x = new FaultBench();
-        int[] outside = {-1, 3, 4, 39, 40, Integer.MIN_VALUE, Integer.MAX_VALUE};
-        for (int kind = 0; kind < 8; kind++) {
-            int k = kind;
-            for (int i : outside) {
-                expect.raises(NO_CELL, "read " + k + " at " + i, () -> x.read(k, true, i));
-                expect.raises(NO_CELL, "write " + k + " at " + i, () -> x.write(k, true, i, 1));
-            }
-        }
-    }
-
-    private static void make() {
-        long[][] due = {
-            {0, 0}, {1, 1}, {2, 2}, {39, 39}, {40, 0}, {41, 1}, {79, 39}, {80, 0},
-            {-40, 0}, {-80, 0}, {Integer.MAX_VALUE, 7},
-        };
-        for (int kind = 0; kind < 8; kind++) {
-            int k = kind;
-            FaultBench x = new FaultBench();
-            for (long[] line : due) {
-                int n = (int) line[0];
-                int cells = (int) line[1];
-                expect.gives(cells, "make " + k + " with " + n, () -> x.make(k, n));
-                expect.gives(cells, "length " + k + " behind make with " + n, () -> x.length(k, true));
-                expect.raises(NO_CELL, "read " + k + " behind make with " + n, () -> x.read(k, true, cells));
-                fillOfZeros(x, k, cells);
-            }
-        }
-    }
-
-    /** All cells are 0, and are 1 behind it, so that the next make has something to lose. */
-    private static void fillOfZeros(FaultBench x, int kind, int cells) {
-        for (int cell = 0; cell < cells; cell++) {
-            int i = cell;
-            expect.gives(0, "read " + kind + " at " + i + " of " + cells, () -> x.read(kind, true, i));
-            x.write(kind, true, i, 1);
-            expect.gives(1, "read " + kind + " at " + i + " behind write", () -> x.read(kind, true, i));
-        }
-    }
-
-    private static void makeBelow0() {
-        int[] below = {-1, -3, -39, -41, -79, Integer.MIN_VALUE};
-        for (int kind = 0; kind < 8; kind++) {
-            int k = kind;
-            FaultBench x = new FaultBench();
-            x.write(k, true, 2, 1);
-            for (int n : below) {
-                expect.raises(BELOW_0, "make " + k + " with " + n, () -> x.make(k, n));
-                expect.gives(3, "length " + k + " behind make with " + n, () -> x.length(k, true));
-                expect.gives(1, "read " + k + " behind make with " + n, () -> x.read(k, true, 2));
-            }
-        }
-    }
-
-    private static void throwingChangesNothing() {
-        FaultBench x = new FaultBench();
-        expect.gives(1, "write", () -> x.write(0, true, 0, 6));
-        expect.raises(NOTHING, "write, nothing there", () -> x.write(0, false, 0, 7));
-        expect.raises(NO_CELL, "write, no cell", () -> x.write(0, true, 3, 7));
-        expect.gives(6, "read", () -> x.read(0, true, 0));
-        expect.gives(4, "make", () -> x.make(0, 4));
-        expect.gives(0, "read of the cell that was not there", () -> x.read(0, true, 3));
     }
 }
