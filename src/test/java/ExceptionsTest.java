@@ -216,7 +216,10 @@ public final class ExceptionsTest {
         return x;
     }
 
-    /** All that can be asked of a bench; the counts and what the boxes take are asked last, by calls that change. */
+    /**
+     * All that can be asked of a bench. Place 19 is in no boxes, so a put there tells whether there are any; the counts
+     * and what the boxes take are asked last, by calls that change.
+     */
     private static String state(FaultBench x) {
         StringBuilder text = new StringBuilder();
         for (int k : KINDS) {
@@ -233,7 +236,7 @@ public final class ExceptionsTest {
                 text.append(' ').append(Expect.outcome(() -> x.cell(i, j)));
             }
         }
-        text.append("\nboxes:");
+        text.append("\nboxes: ").append(Expect.outcome(() -> x.put(true, 19, 2, 1)));
         for (int place = 0; place < 20; place++) {
             int i = place;
             text.append(' ').append(Expect.outcome(() -> x.value(i)));
@@ -242,6 +245,8 @@ public final class ExceptionsTest {
         text.append("\nnext write: ").append(Expect.outcome(() -> x.write(0, true, 0, 1)));
         text.append("\nnext put of a box: ").append(Expect.outcome(() -> x.put(true, 0, 1, 1)));
         text.append("\nnext put of a disc: ").append(Expect.outcome(() -> x.put(true, 0, 2, 1)));
+        text.append("\nboxes made anew: ").append(x.boxes(1, false));
+        text.append("\nnext put there: ").append(Expect.outcome(() -> x.put(true, 0, 1, 1)));
         return text.toString();
     }
 }

@@ -217,6 +217,10 @@ public final class RowsTest {
                 expect.gives(line[1], "length behind make " + k + " with " + line[0], () -> x.length(k, true));
                 expect.raises(NO_CELL, "read behind make " + k + " with " + line[0], () -> x.read(k, true, line[1]));
             }
+            for (int n : new int[] {-1, -39, -41, MIN}) {
+                FaultBench x = new FaultBench();
+                expect.raises(BELOW_0, "make " + k + " with " + n, () -> x.make(k, n));
+            }
         }
     }
 

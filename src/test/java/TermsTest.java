@@ -221,6 +221,7 @@ public final class TermsTest {
             expect.gives(-35, "weight with 0", () -> x.weigh(0, 0));
             expect.gives(-37, "weight with 2", () -> x.weigh(0, 2));
             expect.gives(-5, "roll with 2", () -> x.roll(0, 2));
+            expect.gives(-8, "roll with 1", () -> x.roll(0, 1));
         }
     }
 
