@@ -24,8 +24,9 @@ public final class FaceTest {
         "int raise(boolean) throws NullPointerException, ArithmeticException",
     };
 
+    private static final Expect expect = new Expect("FaceTest");
+
     public static void main(String[] args) {
-        Expect expect = new Expect("FaceTest");
         Class<?> face = FaultBench.class;
         expect.same("public final", "the class", Modifier.toString(face.getModifiers()));
         expect.same(new TreeSet<>(java.util.List.of(FACE)).toString(), "the methods", methodsOf(face).toString());
@@ -33,7 +34,31 @@ public final class FaceTest {
         for (Field field : face.getDeclaredFields()) {
             expect.same("true", field.getName() + " is private", "" + Modifier.isPrivate(field.getModifiers()));
         }
+        classesInside(face);
+        namesOfPrivateMethods(face);
         expect.end();
+    }
+
+    private static void classesInside(Class<?> face) {
+        for (Class<?> inside : face.getDeclaredClasses()) {
+            int is = inside.getModifiers();
+            boolean open = Modifier.isPublic(is) || Modifier.isProtected(is);
+            expect.same("false", inside.getSimpleName() + " is public or protected", "" + open);
+            expect.same("true", inside.getSimpleName() + " is static", "" + Modifier.isStatic(is));
+        }
+    }
+
+    /** Rule 1 of LANGUAGE.md: no private method bears the name of a public one. */
+    private static void namesOfPrivateMethods(Class<?> face) {
+        TreeSet<String> open = new TreeSet<>();
+        for (Method method : face.getMethods()) {
+            open.add(method.getName());
+        }
+        for (Method method : face.getDeclaredMethods()) {
+            if (Modifier.isPrivate(method.getModifiers())) {
+                expect.same("false", method.getName() + " bears a public name", "" + open.contains(method.getName()));
+            }
+        }
     }
 
     private static TreeSet<String> methodsOf(Class<?> face) {

@@ -39,7 +39,7 @@ public final class MachineRunsTest {
         boolean there = below(6) != 0;
         boolean flag = below(2) == 0;
         String args = a + ", " + b + ", " + c + ", " + there + ", " + flag;
-        switch (below(15)) {
+        switch (below(16)) {
             case 0 -> same(where + "read " + args, source, () -> x.read(a, there, b), () -> y.read(a, there, b));
             case 1 -> same(where + "write " + args, source, () -> x.write(a, there, b, c), () -> y.write(a, there, b, c));
             case 2 -> same(where + "length " + args, source, () -> x.length(a, there), () -> y.length(a, there));
@@ -53,6 +53,7 @@ public final class MachineRunsTest {
             case 11 -> same(where + "weigh " + args, source, () -> x.weigh(a, b), () -> y.weigh(a, b));
             case 12 -> same(where + "roll " + args, source, () -> x.roll(a, b), () -> y.roll(a, b));
             case 13 -> same(where + "divide " + args, source, () -> x.divide(a, b, flag), () -> y.divide(a, b, flag));
+            case 14 -> same(where + "raise " + args, source, () -> x.raise(there), () -> y.raise(there));
             default -> {
                 long p = ((long) a << 32) + b;
                 long q = there ? c : (long) c << 32;
@@ -195,6 +196,11 @@ public final class MachineRunsTest {
 
         long divideLong(long a, long b, boolean rest) {
             return rest ? a % b : a / b;
+        }
+
+        int raise(boolean there) {
+            int[] row = there ? new int[1] : null;
+            return 1 / row[0];
         }
     }
 
